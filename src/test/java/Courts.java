@@ -45,7 +45,7 @@ final class Courts {
         Check.same("high", court.game(g, 2), low + 1);
     }
 
-    /** The answers of all calls that only ask. */
+    /** The answers of all calls that only ask: some 250, more than a court is promised for if done often. */
     static String picture(StepCourt court) {
         StringBuilder text = new StringBuilder();
         text.append(court.pot()).append(' ').append(court.base());
